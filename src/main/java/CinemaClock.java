@@ -212,27 +212,22 @@ public final class CinemaClock {
     private int act(Run run) {
         int x = run.task.x;
         int cell = run.task.y & 7;
+        Task other = taskAt(x);
         switch (run.task.act) {
             case 1: cells[cell] += x; return NONE;
             case 2: cells[cell] = x * cells[cell] + run.number; return NONE;
             case 3: return (cells[cell] & 1) != 0 ? x & 15 : NONE;
             case 4: cells[cell] = now; return NONE;
-            case 5: return cancelOther(taskAt(x));
-            case 6: return fireOther(taskAt(x));
+            case 5:
+                if (other == null || !other.isActive()) return MISSING_TASK;
+                leave(other, CANCELLED);
+                return NONE;
+            case 6:
+                if (other == null || !other.isActive()) return MISSING_TASK;
+                other.fireFor(now + 1);
+                return NONE;
             default: return NONE;
         }
-    }
-
-    private int cancelOther(Task other) {
-        if (other == null || !other.isActive()) return MISSING_TASK;
-        leave(other, CANCELLED);
-        return NONE;
-    }
-
-    private int fireOther(Task other) {
-        if (other == null || !other.isActive()) return MISSING_TASK;
-        other.fireFor(now + 1);
-        return NONE;
     }
 
     /** What comes of an end for the run's own task, which is ACTIVE still. */
@@ -317,7 +312,7 @@ public final class CinemaClock {
 
     /** A PAUSE task that loses a due, or a run by stop(), would else never be due again. */
     private void pauseAgain(Task task) {
-        if (task.kind == PAUSE && task.isActive()) task.nextDue = now + task.b;
+        if (task.kind == PAUSE && task.state == ACTIVE) task.nextDue = now + task.b;
     }
 
     private void missDues() {
@@ -387,6 +382,7 @@ public final class CinemaClock {
     private void beginRun(int due, int worker) {
         Task task = dues.task[due];
         if (task == null || workCount >= MOST_WORKERS || runCount >= MOST_RUNS) return;
+        // The run takes its time (it is the task's time-th one) from what its task has begun.
         task.began++;
         task.working++;
         Run run = new Run(runCount, task, dues.minute[due], now, worker);
@@ -850,7 +846,11 @@ public final class CinemaClock {
             if (!isWithin(i, 0, count - 1)) return;
             Task of = task[i];
             if (of != null) of.waits--;
-            for (int k = i + 1; k < count; k++) move(k, k - 1);
+            for (int k = i + 1; k < count; k++) {
+                task[k - 1] = task[k];
+                minute[k - 1] = minute[k];
+                late[k - 1] = late[k];
+            }
             count--;
         }
 
@@ -858,7 +858,9 @@ public final class CinemaClock {
             int kept = 0;
             for (int k = 0; k < count; k++) {
                 if (task[k] != of) {
-                    move(k, kept);
+                    task[kept] = task[k];
+                    minute[kept] = minute[k];
+                    late[kept] = late[k];
                     kept++;
                 }
             }
@@ -872,12 +874,6 @@ public final class CinemaClock {
                 if (of != null) of.waits = 0;
             }
             count = 0;
-        }
-
-        private void move(int from, int to) {
-            task[to] = task[from];
-            minute[to] = minute[from];
-            late[to] = late[from];
         }
 
         /** Whether one due begins before another one that came first. */

@@ -435,6 +435,20 @@ public final class PromiseTests {
         due(4, c.body(0, 0, 1, 7));
         due(1, c.clock(10));
         due(8, c.cell(7));
+        CinemaClock odd = new CinemaClock();
+        odd.task(RATE, 0, 1);
+        odd.set(0, FAILURE, 1);
+        odd.body(0, 1, -2, 0);
+        due(2, odd.clock(2));
+        odd.body(0, 3, 5, 0);
+        due(1, odd.clock(3));
+        due(1, odd.run(1, 4));
+        odd.body(0, 1, -1, 0);
+        due(1, odd.clock(4));
+        odd.body(0, 3, 5, 0);
+        due(1, odd.clock(5));
+        due(2, odd.run(3, 4));
+        due(5, odd.run(3, 5));
     }
 
     // Part 1: act 5
@@ -537,6 +551,20 @@ public final class PromiseTests {
         due(2, two.clock(3));
         due(2, two.clock(4));
         due(2, two.of(1, 2));
+        // fired twice for the next minute, while it is fired for this one
+        CinemaClock thrice = new CinemaClock();
+        thrice.workers(8);
+        for (int t = 0; t < 2; t++) {
+            thrice.task(RATE, t, 1);
+            thrice.body(t, 6, 2, 0);
+        }
+        thrice.task(AFTER, 0, 0);
+        due(1, thrice.clock(1));
+        due(2, thrice.clock(2));
+        due(3, thrice.clock(3));
+        due(3, thrice.clock(4));
+        due(3, thrice.clock(5));
+        due(3, thrice.of(2, 2));
         // a fired task that is cancelled is due no more
         CinemaClock gone = new CinemaClock();
         gone.task(ONCE, 0, 0);
@@ -584,7 +612,7 @@ public final class PromiseTests {
         due(3, c.after(10, 40, 1));
         due(STATE, c.after(40, 10, 1));
         due(1, c.cancel(20, 0));
-        due(STATE, c.after(59, 0, 0));
+        for (int again = 0; again < 3; again++) due(STATE, c.after(59, 0, 0));
         due(2, c.after(0, 59, 0));
     }
 
@@ -626,6 +654,13 @@ public final class PromiseTests {
         due(1, d.cancel(0, 0));
         due(1, d.clock(3));
         due(1, d.run(1, 0));
+        // an AFTER task may stand before the one it comes after
+        CinemaClock before = new CinemaClock();
+        before.task(AFTER, 0, 0);
+        before.task(ONCE, 0, 0);
+        before.after(0, 1, 0);
+        due(2, before.clock(2));
+        due(0, before.run(1, 0));
         // a chain goes on at each end
         CinemaClock e = new CinemaClock();
         e.task(ONCE, 0, 0);
@@ -842,6 +877,25 @@ public final class PromiseTests {
         due(100, c.count(9));
         due(150 - 40, c.next(0, 0));
         due(1, c.clock(111));
+        // the minute HIGH itself is not due again
+        CinemaClock same = new CinemaClock();
+        same.task(CALENDAR, 0, 0);
+        due(5, same.clock(5));
+        due(-3, same.jump(-3));
+        due(4, same.count(9));
+        due(8, same.next(0, 0));
+        due(0, same.clock(8));
+        due(1, same.clock(9));
+        due(4, same.run(4, 1));
+        due(8, same.run(5, 1));
+        // a jump by one minute, and by the most
+        due(-2, same.jump(1));
+        due(1, same.count(6));
+        row(same, 0, 0, 6, 3);
+        due(718, same.jump(720));
+        due(721, same.count(6));
+        row(same, 299, 0, 305, 3);
+        due(726, same.count(9));
         // part of what is jumped over lies above HIGH
         CinemaClock part = new CinemaClock();
         part.task(CALENDAR, 0, 0);
@@ -1026,6 +1080,8 @@ public final class PromiseTests {
         due(1, c.stop(1));
         due(0, c.count(2));
         due(0, c.count(3));
+        due(0, c.of(1, 4));
+        due(0, c.of(2, 4));
         due(3, c.run(0, 4));
         due(3, c.run(0, 3));
         due(3, c.run(1, 4));
@@ -1044,6 +1100,23 @@ public final class PromiseTests {
         due(1, c.go());
         due(1, c.clock(12));
         due(2, c.run(2, 0));
+        // eight runs, and the dues of a task
+        CinemaClock d = new CinemaClock();
+        d.workers(8);
+        d.task(RATE, 0, 1);
+        d.set(0, OVERLAP, 2);
+        d.set(0, LENGTH, 100);
+        due(8, d.clock(11));
+        due(3, d.of(0, 4));
+        due(1, d.stop(1));
+        due(0, d.of(0, 4));
+        due(0, d.count(3));
+        for (int i = 0; i < 8; i++) due(3, d.run(i, 4));
+        due(3, d.count(6));
+        due(1, d.go());
+        due(8, d.workers(8));
+        due(1, d.clock(12));
+        due(0, d.of(0, 4));
     }
 
     // Promise 15
@@ -1369,6 +1442,32 @@ public final class PromiseTests {
         due(0, c.clock(6));
         due(1, c.waiting(1, 2));
         due(2, c.count(6));
+        // LATE stays with its due when one before it goes, and with no other one
+        CinemaClock d = new CinemaClock();
+        d.task(ONCE, 0, 0);
+        d.task(ONCE, 1, 0);
+        d.task(ONCE, 1, 0);
+        d.task(ONCE, 4, 0);
+        d.set(0, LENGTH, 50);
+        d.set(1, LENGTH, 50);
+        d.set(2, MISS, 2);
+        d.set(3, LENGTH, 50);
+        due(1, d.clock(5));
+        due(3, d.count(2));
+        due(0, d.waiting(0, 2));
+        due(1, d.waiting(1, 2));
+        due(0, d.waiting(2, 2));
+        due(1, d.cancel(1, 0));
+        due(2, d.waiting(0, 0));
+        due(1, d.waiting(0, 2));
+        due(0, d.waiting(1, 2));
+        due(1, d.cancel(2, 0));
+        due(3, d.waiting(0, 0));
+        due(0, d.waiting(0, 2));
+        d.task(ONCE, 5, 0);
+        due(0, d.clock(6));
+        due(4, d.waiting(1, 0));
+        due(0, d.waiting(1, 2));
     }
 
     // Part 2, step 4: rank, minute, task, and the order of coming
@@ -1429,6 +1528,14 @@ public final class PromiseTests {
             due(1, c.clock(11));
             due(rule == 2 ? 1 : 10, c.run(1, 1));
         }
+        // two that are missed at once, and one behind them that is not
+        CinemaClock two = new CinemaClock();
+        for (int t = 0; t < 4; t++) two.task(ONCE, t == 3 ? 2 : 0, 0);
+        two.set(0, LENGTH, 50);
+        for (int t = 1; t < 4; t++) two.set(t, MISS, 2);
+        due(1, two.clock(3));
+        due(2, two.count(6));
+        for (int i = 0; i < 3; i++) due(i < 2 ? 1 : 0, two.waiting(i, 2));
         // by rule 1 the last due stays, LATE; a LATE one is not asked again
         CinemaClock d = new CinemaClock();
         d.task(ONCE, 0, 0);
@@ -1443,6 +1550,11 @@ public final class PromiseTests {
         due(1, d.clock(31));
         due(1, d.run(1, 1));
         due(30, d.run(1, 2));
+        // the due that comes in its place is not LATE
+        d.task(ONCE, 32, 0);
+        due(0, d.clock(33));
+        due(2, d.waiting(0, 0));
+        due(0, d.waiting(0, 2));
     }
 
     // Part 2, step 3: a PAUSE task whose due goes is due next at the minute and its b
@@ -1563,6 +1675,24 @@ public final class PromiseTests {
         due(21, c.count(6));
         due(1, c.cancel(0, 0));
         due(0, c.count(2));
+        // a hundred dues that are missed at once
+        CinemaClock d = new CinemaClock();
+        d.task(ONCE, 0, 0);
+        d.set(0, LENGTH, 50);
+        due(1, d.clock(1));
+        d.task(CALENDAR, 0, 0);
+        d.calendar(1, 2, 0, 2);
+        d.set(1, MISS, 2);
+        due(150, d.jump(150));
+        due(100, d.count(2));
+        due(50, d.count(6));
+        row(d, 0, 1, 1, 6);
+        row(d, 49, 1, 1, 6);
+        due(0, d.clock(3));
+        due(52, d.count(6));
+        due(0, d.clock(4));
+        due(153, d.count(6));
+        for (int i = 0; i < 100; i++) due(1, d.waiting(i, 2));
     }
 
     // Promise 20
@@ -1733,7 +1863,21 @@ public final class PromiseTests {
         due(0, c.quiet());
         due(1, c.clock(9));
         due(0, c.quiet());
-        // a due that waits is not quiet
+        // a due that waits is not quiet, also when nothing is at work
+        CinemaClock e = new CinemaClock();
+        e.task(ONCE, 0, 0);
+        e.task(AFTER, 0, 0);
+        e.after(1, 0, 1);
+        e.set(0, LENGTH, 5);
+        due(1, e.clock(1));
+        due(1, e.cancel(0, 1));
+        due(0, e.count(3));
+        due(1, e.count(2));
+        due(0, e.quiet());
+        due(1, e.clock(2));
+        due(0, e.quiet());
+        due(0, e.clock(3));
+        due(1, e.quiet());
         CinemaClock d = new CinemaClock();
         d.workers(2);
         d.group(1);
