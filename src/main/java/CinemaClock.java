@@ -521,8 +521,8 @@ public final class CinemaClock {
     private int stateOf(Task task) {
         if (!task.isActive()) return task.state;
         if (task.working > 0) return BUSY;
-        // FIRED means due at the next minute, so a ONCE task that is FIRED is not over.
-        boolean over = task.kind == ONCE && task.a < now && task.waits == 0 && !task.isFiredFor(now);
+        // Being FIRED is of no matter: the document tells it apart from being due from NOW on.
+        boolean over = task.kind == ONCE && task.a < now && task.waits == 0;
         return over ? OVER : ACTIVE;
     }
 

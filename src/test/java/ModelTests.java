@@ -401,12 +401,11 @@ public final class ModelTests {
         int of(int task, int what) {
             if (!has(task)) return -2;
             int[] t = tasks.get(task);
-            boolean fired = t[FIRED] == now || t[FIRED_TOO] == now;
             switch (what) {
                 case 0:
                     if (t[STATE] != 0) return t[STATE];
                     if (atWork(task) > 0) return 1;
-                    return t[KIND] == 0 && t[A] < now && waits(task) == 0 && !fired ? 2 : 0;
+                    return t[KIND] == 0 && t[A] < now && waits(task) == 0 ? 2 : 0;
                 case 1: return t[KIND];
                 case 2: return t[BEGAN];
                 case 3: return t[SKIPPED];

@@ -956,6 +956,21 @@ public final class PromiseEdgeTests extends Checks {
         due(2, c.of(1, 0));
     }
 
+    // "not due from NOW on and has no DUE": being FIRED is told apart from it (in promise 26), a due that waits isn't
+    static void p17OnceThatIsFired() {
+        CinemaClock c = withTask(ONCE, 0, 0);
+        c.task(ONCE, 1, 0);
+        c.body(1, 6, 0, 0);
+        c.task(RATE, 3, 1);
+        c.set(2, RANK, 9);
+        due(2, c.clock(3));
+        due(2, c.of(0, 0));
+        due(0, c.quiet());
+        due(1, c.clock(4));
+        due(1, c.of(0, 4));
+        due(0, c.of(0, 0));
+    }
+
     // "2 of a ONCE task": no other kind is over
     static void p17OtherKindsAreNotOver() {
         CinemaClock c = new CinemaClock();

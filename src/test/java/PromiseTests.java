@@ -1231,7 +1231,7 @@ public final class PromiseTests {
         due(1, c.of(1, 0));
         due(0, c.clock(5));
         due(2, c.of(1, 0));
-        // a ONCE task that is fired is due at the next minute
+        // a ONCE task that is fired is over till its due comes
         CinemaClock d = new CinemaClock();
         d.task(ONCE, 0, 0);
         d.task(ONCE, 2, 0);
@@ -1239,7 +1239,8 @@ public final class PromiseTests {
         due(2, d.clock(3));
         due(2, d.of(0, 0));
         due(0, d.clock(4));
-        due(0, d.of(0, 0));
+        due(0, d.quiet());
+        due(2, d.of(0, 0));
         due(1, d.clock(5));
         due(1, d.of(0, 0));
         due(0, d.clock(6));
